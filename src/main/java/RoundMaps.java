@@ -1240,9 +1240,11 @@ public final class RoundMaps {
             }
             low[top] = from;
             high[top] = to;
-            slopeLow[top] = slope;
-            slopeHigh[top] = slope;
-            slopeless[top] = false;
+            if (sloping) {
+                slopeLow[top] = slope;
+                slopeHigh[top] = slope;
+                slopeless[top] = false;
+            }
             top++;
         }
 
@@ -1260,13 +1262,11 @@ public final class RoundMaps {
             long before = low[i];
             low[i] = -high[i];
             high[i] = -before;
-            negateSlope(i);
-        }
-
-        private void negateSlope(int i) {
-            long before = slopeLow[i];
-            slopeLow[i] = -slopeHigh[i];
-            slopeHigh[i] = -before;
+            if (sloping) {
+                long slopeBefore = slopeLow[i];
+                slopeLow[i] = -slopeHigh[i];
+                slopeHigh[i] = -slopeBefore;
+            }
         }
 
         private void makeAbsolute() {
@@ -1280,8 +1280,10 @@ public final class RoundMaps {
             }
             high[i] = Math.max(-low[i], high[i]);
             low[i] = 0;
-            slopeHigh[i] = Math.max(-slopeLow[i], slopeHigh[i]);
-            slopeLow[i] = -slopeHigh[i];
+            if (sloping) {
+                slopeHigh[i] = Math.max(-slopeLow[i], slopeHigh[i]);
+                slopeLow[i] = -slopeHigh[i];
+            }
         }
 
         private void add() {
