@@ -51,13 +51,27 @@ public final class MapsTest {
         CHECK.is("2: 4 more would be 101", maps.sign(0), -1);
         CHECK.is("3: end again", maps.end(96), true);
         CHECK.is("2: 4 more are 100", maps.sign(0), 100);
-        maps.end(0);
+        maps.end(2);
+        CHECK.is("3: what stood behind is gone", maps.map(), -3);
+        Check.write(maps, "x/20");
+        maps.end(2);
+        CHECK.is("3: digits behind are gone", maps.map(), -3);
         maps.sign(0x332d782f);
         maps.sign(0x3400ff80);
         maps.end(5);
         CHECK.is("2: the highest byte first", maps.map(), 0);
         maps.shut(1024, 1024, 0, 0);
         CHECK.row("2: 3-x/4", maps, 2816, 2816);
+        Check.write(maps, "8/24");
+        maps.end(3);
+        maps.map();
+        maps.shut(0, 0, 0, 0);
+        CHECK.row("3: 8/2", maps, 4096, 4096);
+        Check.write(maps, "1234");
+        maps.end(2);
+        maps.map();
+        maps.shut(0, 0, 0, 0);
+        CHECK.row("3: 12", maps, 12288, 12288);
     }
 
     private static void text(String text, int place) {
@@ -70,7 +84,7 @@ public final class MapsTest {
     private static void texts() {
         String[] right = {"x", "0", "0000", "9999", "--x", "-A-Ax", "AAx", "x*-x", "x+-x", "x--x", "x/999", "x/1*2/3",
             "x;y", "(x)", "((x))", "x<1?x:x", "x<x?x<x?x:x:x", "(x<1?x:2)<3?x:y", "x<(x<1?2:3)?x:1", "x<1?2:3+x",
-            "x<1?x:x<2?y:a", "(x<1?n:u)*d;-(y)", "y", "x+a-n*u/7-d"};
+            "x<1?x:x<2?y:a", "x+1<2*x-1?x+1:x-1", "(x-1<x?x+1:x)+1<x?1:2", "(x<1?n:u)*d;-(y)", "y", "x+a-n*u/7-d"};
         for (String text : right) {
             text(text, -1);
         }

@@ -152,6 +152,11 @@ public final class NetTest {
         CHECK.is("17: all are told", maps.row(127), 127);
         CHECK.is("18: all cells", maps.back(127), 128);
         CHECK.is("18: all are told", maps.count(6), 128);
+        Check.map(maps, "x/8;y/8");
+        CHECK.is("18: to the last cell", maps.back(127), 0);
+        CHECK.is("18: to a far cell", maps.back(64), 0);
+        CHECK.is("18: to a near cell", maps.back(17), 9);
+        CHECK.row("18: to a near cell", maps, 119, 120, 121, 122, 123, 124, 125, 126, 127);
     }
 
     private static void noNet() {
@@ -186,8 +191,13 @@ public final class NetTest {
         for (int[] pair : due) {
             CHECK.is("20: cell at " + pair[0], maps.cell(pair[0], Integer.MIN_VALUE), pair[1]);
         }
+        maps.grid(5, 8, 3, 0, 0, 1);
+        int[] narrow = {-1, 0, 0, 1, 2, -1};
+        for (int i = 0; i < 6; i++) {
+            CHECK.is("20: narrow, at " + (4 + i), maps.cell(4 + i, 0), narrow[i]);
+        }
         Check.map(maps, "x;y");
-        CHECK.is("20: the grid is of the line still", maps.cell(0, 99), 1);
+        CHECK.is("20: the grid is of the line still", maps.cell(7, 99), 1);
         maps.grid(0, 6, 3, -4, 4, 2);
         CHECK.is("20: the first corner", maps.cell(0, -4), 0);
         CHECK.is("20: of four the least", maps.cell(2, 0), 0);

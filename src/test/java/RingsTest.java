@@ -127,6 +127,13 @@ public final class RingsTest {
         CHECK.row("36: turning of " + text, maps, due);
     }
 
+    private static void turnOne(String text, int due) {
+        RoundMaps maps = Check.with(text);
+        maps.grid(-1024, 1024, 1, -1024, 1024, 1);
+        CHECK.is("36: told of one cell, " + text, maps.turning(0, 0), 1);
+        CHECK.row("36: turning of one cell, " + text, maps, due);
+    }
+
     private static void turning() {
         turn("y;-x", 1);
         turn("x/2;y/2", 1);
@@ -138,6 +145,13 @@ public final class RingsTest {
         turn("x-3;y", 0);
         turn("x+1;y+1", 0);
         turn("x;y-3", 0);
+        turn("x+3*y;y-3*x", 1);
+        turn("x-3*y;y+3*x", 1);
+        turn("x+3*y;y+3*x", -1);
+        turnOne("0;0", 1);
+        turnOne("x+3*y;y-3*x", 1);
+        turnOne("x-3*y;y+3*x", 1);
+        turnOne("x+3*y;y+3*x", -1);
         RoundMaps maps = Check.with("0;0");
         maps.grid(-3072, 5120, 8, -3072, 5120, 8);
         CHECK.is("36: round 0", maps.turning(18, 36), 1);
@@ -150,6 +164,10 @@ public final class RingsTest {
         CHECK.row("36: one cell", maps, 0);
         CHECK.is("36: 0 is on its rim", maps.turning(27, 36), 0);
         CHECK.row("36: the ROW stays", maps, 0);
+        CHECK.is("36: above 0", maps.turning(35, 44), 1);
+        CHECK.row("36: above 0", maps, 0);
+        CHECK.is("36: right of 0", maps.turning(28, 37), 1);
+        CHECK.row("36: right of 0", maps, 0);
         CHECK.is("36: not to the left", maps.turning(9, 16), -1);
         CHECK.is("36: not down", maps.turning(9, 2), -1);
         CHECK.is("36: no cell", maps.turning(-1, 3), -1);

@@ -71,12 +71,26 @@ public final class SetsTest {
         CHECK.is("23: all", maps.many(1), 128);
         CHECK.is("23: 40 at most", maps.count(6), 40);
         CHECK.is("23: the last told", maps.row(39), 39);
+        CHECK.is("22: both", maps.join(0, 1, 1), 0);
+        Check.put(maps, 1, 5, 70, 127);
+        Check.put(maps, 2, 70, 100);
+        CHECK.is("22: one of them or both", maps.join(1, 2, 2), 4);
+        CHECK.set("22: one of them or both", maps, 2, 5, 70, 100, 127);
+        CHECK.is("22: in t alone", maps.join(1, 2, 3), 1);
+        CHECK.set("22: in t alone", maps, 2, 100);
+        CHECK.is("22: none is in both", maps.join(1, 2, 1), 0);
+        CHECK.is("22: none", maps.put(1, 70, false), 2);
         maps.put(0, 127, true);
         maps.put(0, 64, true);
         maps.put(0, 63, true);
         CHECK.set("23: ascending", maps, 0, 63, 64, 127);
         maps.many(2);
         CHECK.row("23: none", maps);
+        CHECK.is("27: far cells touch others", maps.trap(0), 0);
+        maps.join(2, 2, 4);
+        CHECK.is("27: all cells", maps.trap(2), 1);
+        maps.put(2, 100, false);
+        CHECK.is("27: all cells but one", maps.trap(2), 0);
         CHECK.is("23: refused", maps.many(4), -1);
         CHECK.is("23: on a new object", new RoundMaps().many(3), 0);
     }
@@ -127,6 +141,9 @@ public final class SetsTest {
         reachIs(OUTWARD, 0, new int[] {0, 3}, 3);
         reachIs(OUTWARD, 1, new int[] {3}, 0, 1, 2);
         reachIs(OUTWARD, 3, new int[] {3});
+        // all but 0 go to 0 alone, 0 goes everywhere
+        reachIs("x<1/4?3/4+1/8:1/8", 0, new int[] {1}, 0, 1, 2, 3);
+        reachIs("x<1/4?3/4+1/8:1/8", 1, new int[] {2}, 0, 1, 2, 3);
     }
 
     private static void reachSurely() {
