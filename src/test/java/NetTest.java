@@ -46,7 +46,13 @@ public final class NetTest {
         CHECK.is("14: y too high", maps.grid(0, 4, 2, 999999, 1000001, 2), -1);
         CHECK.is("14: 144 cells", maps.grid(0, 16, 16, 0, 9, 9), -1);
         CHECK.is("14: 128 cells", maps.grid(0, 16, 16, 0, 8, 8), 128);
+        Check.put(maps, 3, 5, 63, 64, 127);
         CHECK.is("14: 8 by 16", maps.grid(0, 8, 8, 0, 16, 16), 128);
+        CHECK.set("14: far cells are gone too", maps, 3);
+        CHECK.is("17: a far cell", maps.next(127), 4);
+        CHECK.row("17: a far cell", maps, 118, 119, 126, 127);
+        CHECK.is("17: then a near one", maps.next(0), 4);
+        CHECK.row("17: then a near one", maps, 0, 1, 8, 9);
         CHECK.is("14: one cell", maps.grid(0, 1, 1, 0, 1, 1), 1);
     }
 

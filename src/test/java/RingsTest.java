@@ -148,6 +148,11 @@ public final class RingsTest {
         turn("x+3*y;y-3*x", 1);
         turn("x-3*y;y+3*x", 1);
         turn("x+3*y;y+3*x", -1);
+        for (String still : new String[] {"x/9;-1", "x/9;1", "1;y/9", "-1;y/9"}) {
+            RoundMaps one = Check.with(still);
+            one.grid(-1024, 1024, 1, -1024, 1024, 1);
+            CHECK.is("36: a side stands still, " + still, one.turning(0, 0), 0);
+        }
         turnOne("0;0", 1);
         turnOne("x+3*y;y-3*x", 1);
         turnOne("x-3*y;y+3*x", 1);
