@@ -19,6 +19,28 @@ final class Check {
         is(what, got ? 1 : 0, want ? 1 : 0);
     }
 
+    void same(String what, String got, String want) {
+        asked++;
+        if (!got.equals(want)) {
+            wrong++;
+            System.out.println(what + " answered " + got + ", due is " + want);
+        }
+    }
+
+    /** Tells the first place where two objects differ. */
+    void same(String what, List<String> got, List<String> want) {
+        asked++;
+        if (!got.equals(want)) {
+            wrong++;
+            int i = 0;
+            while (i < got.size() && i < want.size() && got.get(i).equals(want.get(i))) {
+                i++;
+            }
+            System.out.println(what + " told " + (i < got.size() ? got.get(i) : "its end") + ", due is "
+                + (i < want.size() ? want.get(i) : "its end"));
+        }
+    }
+
     void row(String what, RoundMaps maps, int... want) {
         asked++;
         List<Integer> due = new ArrayList<>();
