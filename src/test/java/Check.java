@@ -59,6 +59,29 @@ final class Check {
         row(what, maps, want);
     }
 
+    /**
+     * A run of calls on one object: "put 0 1 1 = 1" is due to answer 1, "many 0 = 1 : 1" to answer 1 and then
+     * to have the ROW 1; "map x+1" writes the text on an empty TAPE ahead.
+     */
+    void run(RoundMaps maps, String promise, String... calls) {
+        for (String call : calls) {
+            int answer = call.indexOf(" = ");
+            int row = call.indexOf(" :");
+            String asked = answer >= 0 ? call.substring(0, answer) : call;
+            String got = asked.startsWith("map ") ? State.map(maps, asked.substring(4)) : State.ask(maps, asked);
+            if (answer >= 0) {
+                same(promise + ": " + asked, got, call.substring(answer + 3, row >= 0 ? row : call.length()));
+            }
+            if (row >= 0) {
+                StringBuilder told = new StringBuilder(" :");
+                for (int number : rowOf(maps)) {
+                    told.append(' ').append(number);
+                }
+                same(promise + ": the ROW behind " + asked, told.toString(), call.substring(row));
+            }
+        }
+    }
+
     void throwsNone(String what, RoundMaps maps, int i) {
         boolean thrown = false;
         try {
