@@ -12,7 +12,8 @@ public final class AgainstPlainTest {
         "4*x*(1-x)", "2*x", "(1-x)/2", "x<1/2?2*x:2-2*x", "x*x-a", "x*x-1+n", "x/2+u", "x+u+n", "a*x*(1-x)+u",
         "Ax-A-3+d", "1-A(2*x-1)", "x<a?x+u:x-u+n", "(x<1?x:2)<a?x/3:x*x/7", "-x*x*x/2+a*x", "3*x/4+d/9", "x+1",
         "y;-x", "x/2;y/2", "2*x;y/2", "y;x+y-a", "1-a*x*x+y;3*x/10", "x+u;y+u/2", "x<y?y:x;x<y?x/2:y+n",
-        "A(x<y?y:x);x<y?x:y", "(x-y)*3/4;(x+y)*3/4", "x*x-y*y+a;2*x*y+u", "y;0-x/2+y*y/9", "x;y", "x;y+1", "-y;x", "x/2+u", "x*3/4+u/2", "x/2+u;y/2-u", "u+x/3;y/2", "x/2+y/4;y/2+u",
+        "A(x<y?y:x);x<y?x:y", "(x-y)*3/4;(x+y)*3/4", "x*x-y*y+a;2*x*y+u", "y;0-x/2+y*y/9", "x;y", "x;y+1",
+        "-y;x", "x/2+u", "x*3/4+u/2", "x/2+u;y/2-u", "u+x/3;y/2", "x/2+y/4;y/2+u",
         "x+1<2*x-1?x+u:x-1", "x-y<a?x/2:-x;x+y<1?y*x:u-y/2", "x<a?1<a?x/2:-x:x<0?u:n",
     };
     private static final String SIGNS = "xyanud0123456789+-*/()<?:;A";

@@ -126,7 +126,8 @@ public final class RefusalsTest {
         }
         RoundMaps maps = State.lead(new RoundMaps(), name, first);
         CHECK.same(call + ", " + name, State.ask(maps, asked), due);
-        List<String> asItWas = AS_IT_WAS.computeIfAbsent(name + first, n -> State.all(State.lead(new RoundMaps(), name, first)));
+        List<String> asItWas = AS_IT_WAS.computeIfAbsent(name + first,
+            n -> State.all(State.lead(new RoundMaps(), name, first)));
         CHECK.same("behind " + call + ", " + name, State.all(maps), asItWas);
     }
 
@@ -139,12 +140,13 @@ public final class RefusalsTest {
     }
 
     private static void onLine() {
-        refused("line", "5 use 2 = 0", "3 end 4 = 0", "50 row 3 = " + State.THROWS, "14 grid 0 4 2 0 4 2", "14 grid 0 4 2 0 0 2",
-            "14 grid 0 4 2 0 1 1", "14 grid 0 4 2 -1 0 1", "14 grid 0 4 2 -1 1 1", "30 order 9 0", "30 order 0 9", "30 order -1 0", "30 order 0 -1",
-            "30 order MIN 0", "30 order 0 MAX", "31 take -1 0", "31 take 9 0", "31 take MAX 0", "31 take MIN 0",
-            "36 turning 0 0", "36 turning 0 7", "37 box 1 0", "37 box 7 6", "37 box 7 0", "38 covers 3 0", "38 covers 0 3",
-            "38 covers -1 0", "38 covers 0 -1", "38 covers MAX 0", "38 covers 0 MIN", "40 word 3 1", "40 word 48 2",
-            "40 word 3 2", "40 word -1 1", "40 word 805306368 8");
+        refused("line", "5 use 2 = 0", "3 end 4 = 0", "50 row 3 = " + State.THROWS, "14 grid 0 4 2 0 4 2",
+            "14 grid 0 4 2 0 0 2", "14 grid 0 4 2 0 1 1", "14 grid 0 4 2 -1 0 1", "14 grid 0 4 2 -1 1 1",
+            "30 order 9 0", "30 order 0 9", "30 order -1 0", "30 order 0 -1", "30 order MIN 0", "30 order 0 MAX",
+            "31 take -1 0", "31 take 9 0", "31 take MAX 0", "31 take MIN 0", "36 turning 0 0", "36 turning 0 7",
+            "37 box 1 0", "37 box 7 6", "37 box 7 0", "38 covers 3 0", "38 covers 0 3", "38 covers -1 0",
+            "38 covers 0 -1", "38 covers MAX 0", "38 covers 0 MIN", "40 word 3 1", "40 word 48 2", "40 word 3 2",
+            "40 word -1 1", "40 word 805306368 8");
     }
 
     private static void onPlane() {
@@ -161,9 +163,9 @@ public final class RefusalsTest {
     }
 
     private static void full() {
-        refused("full", "2 sign 0", "2 sign MIN", "2 sign MAX", "2 sign -1", "7 push 0", "7 push 1000000", "7 push -1000000",
-            "37 box 0 0", "37 box 0 15", "37 box 15 15", "38 covers 6 0", "38 covers 0 6", "40 word 7 1", "46 see 0", "46 see 9",
-            "50 row 16 = " + State.THROWS, "3 end 101 = 0");
+        refused("full", "2 sign 0", "2 sign MIN", "2 sign MAX", "2 sign -1", "7 push 0", "7 push 1000000",
+            "7 push -1000000", "37 box 0 0", "37 box 0 15", "37 box 15 15", "38 covers 6 0", "38 covers 0 6",
+            "40 word 7 1", "46 see 0", "46 see 9", "50 row 16 = " + State.THROWS, "3 end 101 = 0");
         for (int length = 97; length <= 99; length++) {
             refusedBehind("full", "end " + length, "2 sign 0");
             refusedBehind("full", "end " + length, "3 end " + (length + 1) + " = 0");
@@ -186,7 +188,8 @@ public final class RefusalsTest {
         for (String name : State.NAMES) {
             for (int i = 0; i < texts.length; i++) {
                 RoundMaps maps = State.lead(new RoundMaps(), name, "");
-                CHECK.same("4 " + texts[i] + ", " + name, State.map(maps, texts[i]), name.equals("full") ? "-100" : "" + due[i]);
+                CHECK.same("4 " + texts[i] + ", " + name, State.map(maps, texts[i]),
+                    name.equals("full") ? "-100" : "" + due[i]);
                 CHECK.same("behind 4 " + texts[i] + ", " + name, State.all(maps),
                     State.all(State.lead(new RoundMaps(), name, "end 0")));
             }
