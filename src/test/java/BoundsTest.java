@@ -20,6 +20,7 @@ public final class BoundsTest {
         manyCells();
         sets();
         tallGrid();
+        smallBehindGreat();
         ringsAndWords();
         steering();
         sights();
@@ -254,6 +255,37 @@ public final class BoundsTest {
             "back 3 = 3 : 2 3 4", "put 0 0 1 = 1", "put 0 7 1 = 2", "homes 0 0 = 2", "homes 0 1 = 0", "put 0 3 1 = 3",
             "homes 0 1 = 0", "turning 0 7 = 0", "map 1/999;y+2 = 1", "turning 0 7 = 1 : 0", "map 0-1;y = 2",
             "turning 0 7 = 1 : 0", "turning 3 3 = 1 : 0");
+    }
+
+    /** Nothing of 128 CELLS is left over on a small grid, whatever was asked last on the great one. */
+    private static void smallBehindGreat() {
+        String[] lasts = {"join 0 0 4", "next 127", "back 127", "take 0 3", "rings 60", "sense 0", "reach 0 1 0", "many 0",
+            "steer 0 1 60", "safe 0 1", "core 0 1", "homes 0 0", "homes 3 1"};
+        String[] firsts = {"take 0 3 = 2", "next 0 = 2", "back 0 = 2", "rings 1 = 2", "sense 3 = 2", "reach 0 3 0 = 0",
+            "reach 0 3 1 = 0", "reach 0 3 2 = 0", "reach 0 3 3 = 2", "join 0 3 4 = 2", "join 0 3 2 = 0", "core 0 3 = 0",
+            "safe 0 3 = 0", "steer 0 3 60 = 0", "homes 0 0 = 0", "homes 0 1 = 0", "many 3 = 0", "trap 3 = 1", "heaps = 1",
+            "arrows = 4", "plan 0 = -1", "steps 1 = -1", "sight 1 0 = 0", "heap 2 = -1", "has 3 2 = -1", "put 3 0 1 = 1"};
+        String[] great = {"use 2 = 1", "grid 0 1024 16 0 1024 8 = 128", "join 0 0 4 = 128", "join 0 1 0 = 128",
+            "join 0 2 0 = 128", "sight 0 9 = 0", "sight 1 9 = 0", "see 0 = 1", "steer 0 3 60 = 128", "heaps = 1"};
+        for (String last : lasts) {
+            for (String first : firsts) {
+                RoundMaps maps = new RoundMaps();
+                CHECK.run(maps, "14: a great grid", "map 1-x = 0", "map u = 1", "map n;n = 2", "letter 1 0 1024 = 1");
+                CHECK.run(maps, "14: a great grid", great);
+                CHECK.run(maps, "14: a great grid, last", last);
+                CHECK.run(maps, "14: then a small one", "use 0 = 1", "grid 0 1024 2 0 0 1 = 2");
+                CHECK.run(maps, "14: behind " + last + ", on a small one", first, "many 1 = 0 :", "many 2 = 0 :",
+                    "count 5 = 0", "many 0 = 0 :");
+            }
+        }
+        RoundMaps maps = new RoundMaps();
+        RoundMaps other = new RoundMaps();
+        CHECK.run(maps, "14: a great grid", "map 1-x = 0", "map u = 1", "map n;n = 2", "letter 1 0 1024 = 1");
+        CHECK.run(other, "14: no great grid", "map 1-x = 0", "map u = 1", "map n;n = 2", "letter 1 0 1024 = 1");
+        CHECK.run(maps, "14: a great grid", great);
+        CHECK.run(maps, "14: then a small one", "use 0 = 1", "grid 0 1024 2 0 0 1 = 2");
+        CHECK.run(other, "14: a small one at once", "use 0 = 1", "grid 0 1024 2 0 0 1 = 2");
+        CHECK.same("14: nothing is left over", State.all(maps), State.all(other));
     }
 
     private static void ringsAndWords() {
