@@ -1,10 +1,12 @@
 import java.lang.reflect.InvocationTargetException;
 import java.lang.reflect.Method;
+import java.lang.reflect.Modifier;
 import java.util.ArrayList;
 import java.util.HashMap;
 import java.util.List;
 import java.util.Map;
 import java.util.NoSuchElementException;
+import java.util.concurrent.ConcurrentHashMap;
 
 /**
  * Objects that were led somewhere, and all that can be seen of one. Calls are told as words ("letter 0 -1 1"),
@@ -15,7 +17,8 @@ final class State {
     /** A new object; one of the line, one of the plane; both again under a MAP of the other kind; a full one. */
     static final String[] NAMES = {"new", "line", "plane", "line under plane", "plane under line", "full"};
 
-    private static final Map<Class<?>, Map<String, Method>> METHODS = new HashMap<>();
+    /** Tests ask from several threads at once. */
+    private static final Map<Class<?>, Map<String, Method>> METHODS = new ConcurrentHashMap<>();
 
     /** How many calls were asked. */
     static int asked = 0;
@@ -51,20 +54,22 @@ final class State {
     }
 
     private static Method method(Class<?> of, String name) {
-        Map<String, Method> named = METHODS.computeIfAbsent(of, c -> new HashMap<>());
-        if (named.isEmpty()) {
-            for (Method method : of.getDeclaredMethods()) {
-                if (java.lang.reflect.Modifier.isPublic(method.getModifiers())) {
-                    method.setAccessible(true);
-                    named.put(method.getName(), method);
-                }
-            }
-        }
-        Method method = named.get(name);
+        Method method = METHODS.computeIfAbsent(of, State::methods).get(name);
         if (method == null) {
             throw new IllegalArgumentException(name);
         }
         return method;
+    }
+
+    private static Map<String, Method> methods(Class<?> of) {
+        Map<String, Method> named = new HashMap<>();
+        for (Method method : of.getDeclaredMethods()) {
+            if (Modifier.isPublic(method.getModifiers())) {
+                method.setAccessible(true);
+                named.put(method.getName(), method);
+            }
+        }
+        return named;
     }
 
     private static int number(String word) {
