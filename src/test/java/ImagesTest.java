@@ -57,6 +57,13 @@ public final class ImagesTest {
         image("Ax", 0, 5, 0, 5);
         image("Ax", -5, 0, 0, 5);
         image("Ax", -5, -2, 2, 5);
+        image("Ax", -5, -1, 1, 5);
+        image("Ax", -5, 1, 0, 5);
+        image("Ax", -1, 0, 0, 1);
+        image("Ax", -1, 1, 0, 1);
+        image("Ax", -1, 5, 0, 5);
+        image("Ax", 0, 0, 0, 0);
+        image("Ax", -1, -1, 1, 1);
         image("Ax", -5, 4, 0, 5);
         image("Ax", -5, 6, 0, 6);
         image("x*(1-x)", 0, 1024, 0, 1024);
@@ -170,6 +177,12 @@ public final class ImagesTest {
         slopeIs("A(x-1)", 1024, 2000, 1024, 1024);
         slopeIs("A(x-1)", 0, 1024, -1024, -1024);
         slopeIs("A(2*x-1)", 0, 1024, -2048, 2048);
+        slopeIs("Ax", 0, 0, 1024, 1024);
+        slopeIs("Ax", 0, 5, 1024, 1024);
+        slopeIs("Ax", -1, -1, -1024, -1024);
+        slopeIs("Ax", -5, 0, -1024, -1024);
+        slopeIs("Ax", -5, 1, -1024, 1024);
+        slopeIs("Ax", -1, 5, -1024, 1024);
         slopeIs("A(a*x)", -1, 1, -2048, 2048);
         slopeIs("A(-a*x)", -1, 1, -2048, 2048);
         slopeIs("x<1?3*x:x", 0, 1023, 3072, 3072);
