@@ -51,6 +51,10 @@ public final class ImagesTest {
         image("x*-x", 3, 3, -1, 0);
         image("x/3", -4, 4, -2, 2);
         image("x/3", 4, 5, 1, 2);
+        image("x/1", -5, 7, -5, 7);
+        image("x/999", -999, 999, -1, 1);
+        image("x/999", -1000, 1000, -2, 2);
+        image("x/999", -998, 998, -1, 1);
         image("x-x", 1, 5, -4, 4);
         image("-x", 1, 5, -5, -1);
         image("Ax", 1, 5, 1, 5);
@@ -138,6 +142,7 @@ public final class ImagesTest {
         }
         CHECK.is("11: odd", maps.finer(0, 1025, 0, 0, 1), 515);
         CHECK.row("11: odd", maps, -2, 513);
+        finerCuts();
         CHECK.is("11: k 4", maps.finer(0, 1, 0, 0, 4), -1);
         CHECK.is("11: k -1", maps.finer(0, 1, 0, 0, -1), -1);
         CHECK.is("11: lo above hi", maps.finer(1, 0, 0, 0, 1), -1);
@@ -154,6 +159,17 @@ public final class ImagesTest {
         maps = Check.with("x*x*x");
         CHECK.is("11: BIG at most", maps.finer(-1000000, 1000000, 0, 0, 2), 2147483647);
         CHECK.row("11: BIG at most", maps, -2147483647, 2147483647);
+    }
+
+    /** 0 .. 7 is cut at 3; at 1, 3, 5; at 0, 1, 2, .. 6; a lo below 0 is added to what is cut. */
+    private static void finerCuts() {
+        String above = "map 1024*x*(6-1024*x) = 0";
+        CHECK.run(new RoundMaps(), "11: cut", above, "finer 0 7 0 0 0 = 50176 : -7168 43008",
+            "finer 0 7 0 0 1 = 28672 : -7168 21504", "finer 0 7 0 0 2 = 22528 : -7168 15360",
+            "finer 0 7 0 0 3 = 19456 : -7168 12288", "finer 3 3 0 0 3 = 0 : 9216 9216", "finer 0 1 0 0 3 = 6144 : 0 6144");
+        String below = "map 1024*x*(0-6-1024*x) = 0";
+        CHECK.run(new RoundMaps(), "11: cut below 0", below, "finer -7 0 0 0 2 = 23552 : -7168 16384",
+            "finer -7 0 0 0 0 = 50176 : -7168 43008", "finer -3 -3 0 0 3 = 0 : 9216 9216");
     }
 
     private static void slopeIs(String text, int lo, int hi, int... due) {

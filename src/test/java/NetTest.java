@@ -9,6 +9,7 @@ public final class NetTest {
         fine();
         arrows();
         planeArrows();
+        rims();
         noNet();
         cell();
         CHECK.end();
@@ -96,6 +97,8 @@ public final class NetTest {
         CHECK.is("15: fine 2", maps.fine(2), 1);
         CHECK.is("15: fine 0", maps.fine(0), 2);
         CHECK.is("15: whole cells again", maps.next(0), 2);
+        CHECK.run(new RoundMaps(), "15: 0 .. 7 is cut at 1, 3, 5", "map A(1024*x*(6-1024*x))/3/750 = 0",
+            "grid 0 7 1 0 0 1 = 1", "leaves 0 = 1", "fine 1 = 0", "leaves 0 = 1", "fine 2 = 1", "leaves 0 = 0", "arrows = 1");
         // 0 .. 257 is cut at 128: at 129 no IMAGE would go beyond 257
         maps = Check.onLine("1024*x*(300-1024*x)/171/512/2", 0, 257, 1);
         maps.fine(1);
@@ -163,6 +166,25 @@ public final class NetTest {
         CHECK.is("18: to a far cell", maps.back(64), 0);
         CHECK.is("18: to a near cell", maps.back(17), 9);
         CHECK.row("18: to a near cell", maps, 119, 120, 121, 122, 123, 124, 125, 126, 127);
+    }
+
+    /** On 0 .. 1024, cut at 256, 512, 768, of the line and of both sides of the plane. */
+    private static void rims() {
+        int[][] spans = {{256, 256}, {255, 255}, {257, 257}, {255, 257}, {257, 511}, {256, 512}, {0, 0}, {1024, 1024},
+            {1025, 1025}, {-1, -1}, {-1, 0}, {1024, 1025}, {-5, 1030}, {-1000000, 1000000}, {-1000000, -1},
+            {1025, 1000000}, {0, 1024}, {1, 1023}, {767, 768}, {769, 1024}};
+        String[] due = {"2 : 0 1", "1 : 0", "1 : 1", "2 : 0 1", "1 : 1", "3 : 0 1 2", "1 : 0", "1 : 3", "0 :", "0 :",
+            "1 : 0", "1 : 3", "4 : 0 1 2 3", "4 : 0 1 2 3", "0 :", "0 :", "4 : 0 1 2 3", "4 : 0 1 2 3", "2 : 2 3", "1 : 3"};
+        for (int i = 0; i < spans.length; i++) {
+            String letter = "letter 1 " + spans[i][0] + " " + spans[i][1];
+            String leaves = "leaves 2 = " + (spans[i][0] < 0 || spans[i][1] > 1024 ? 1 : 0);
+            CHECK.run(new RoundMaps(), "17: " + letter, "map n = 0", "grid 0 1024 4 0 0 1 = 4", letter + " = 1",
+                "next 2 = " + due[i], leaves);
+            CHECK.run(new RoundMaps(), "17: across, " + letter, "map n;1/2 = 0", "grid 0 1024 4 0 1024 1 = 4", letter + " = 1",
+                "next 2 = " + due[i], leaves);
+            CHECK.run(new RoundMaps(), "17: up, " + letter, "map 1/2;n = 0", "grid 0 1024 1 0 1024 4 = 4", letter + " = 1",
+                "next 2 = " + due[i], leaves);
+        }
     }
 
     private static void noNet() {

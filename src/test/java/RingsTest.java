@@ -8,6 +8,7 @@ public final class RingsTest {
         ringOfMany();
         lettersAreSpans();
         stable();
+        besideOne();
         rings();
         turning();
         refused();
@@ -96,6 +97,27 @@ public final class RingsTest {
         stableIs(TENT, 0, 300, 2, 2);
         stableIs("x<1?2*x:x/4", 600, 1000, 1, 0);
         stableIs("x<1?2*x:x/4", 600, 1000, 2, 1);
+    }
+
+    /** SLOPES beside 1024 and -1024. */
+    private static void besideOne() {
+        int[] slopes = {1023, 1024, 1025, -1023, -1024, -1025};
+        int[] stable = {1, 2, 0, 1, 2, 0};
+        int[] ring = {3, 5, 3, 3, 3, 3};
+        for (int i = 0; i < slopes.length; i++) {
+            RoundMaps maps = Check.onLine("a*x", 0, 256, 1);
+            maps.letter(0, slopes[i], slopes[i]);
+            CHECK.is("33: SLOPE " + slopes[i], maps.ring(0, 1), ring[i]);
+            CHECK.is("34: SLOPE " + slopes[i], maps.stable(0, 1), stable[i]);
+        }
+        int[][] spans = {{1023, 1024}, {1024, 1025}, {1025, 1026}, {1022, 1023}, {-1023, 1023}, {-1024, 1023}, {-1023, 1024},
+            {-1026, -1025}, {-1025, -1024}, {-1025, 1025}};
+        int[] due = {2, 2, 0, 1, 1, 2, 2, 0, 2, 2};
+        for (int i = 0; i < spans.length; i++) {
+            RoundMaps maps = Check.onLine("a*x", 0, 256, 1);
+            maps.letter(0, spans[i][0], spans[i][1]);
+            CHECK.is("34: SLOPE from " + spans[i][0] + " to " + spans[i][1], maps.stable(0, 1), due[i]);
+        }
     }
 
     private static void rings() {
