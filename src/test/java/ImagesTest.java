@@ -43,6 +43,9 @@ public final class ImagesTest {
         image("1<2?1<0?5:6:7", 0, 0, 6144, 6144);
         image("(2<1?3:4)+5", 0, 0, 9216, 9216);
         image("y+1", 0, 0, 1024, 1024);
+        CHECK.run(new RoundMaps(), "10: y is 0 on the line", "map y+x = 0", "shut 1 2 3 40 = 0 : 1 2",
+            "finer 1 2 3 40 2 = 1 : 1 2", "orbit 5 77 0 = 0 : 5 5", "orbit 5 77 1 = 0 : 5 5", "orbit 5 77 2 = 0 : 5 5",
+            "slope 3 4 = 0 : 1024 1024");
     }
 
     private static void spans() {
@@ -166,7 +169,8 @@ public final class ImagesTest {
         String above = "map 1024*x*(6-1024*x) = 0";
         CHECK.run(new RoundMaps(), "11: cut", above, "finer 0 7 0 0 0 = 50176 : -7168 43008",
             "finer 0 7 0 0 1 = 28672 : -7168 21504", "finer 0 7 0 0 2 = 22528 : -7168 15360",
-            "finer 0 7 0 0 3 = 19456 : -7168 12288", "finer 3 3 0 0 3 = 0 : 9216 9216", "finer 0 1 0 0 3 = 6144 : 0 6144");
+            "finer 0 7 0 0 3 = 19456 : -7168 12288", "finer 3 3 0 0 3 = 0 : 9216 9216",
+            "finer 0 1 0 0 3 = 6144 : 0 6144");
         String below = "map 1024*x*(0-6-1024*x) = 0";
         CHECK.run(new RoundMaps(), "11: cut below 0", below, "finer -7 0 0 0 2 = 23552 : -7168 16384",
             "finer -7 0 0 0 0 = 50176 : -7168 43008", "finer -3 -3 0 0 3 = 0 : 9216 9216");

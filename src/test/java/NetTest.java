@@ -1,3 +1,6 @@
+import java.util.ArrayList;
+import java.util.List;
+
 /** Promises 14 to 20. */
 public final class NetTest {
     private static final Check CHECK = new Check();
@@ -10,6 +13,7 @@ public final class NetTest {
         arrows();
         planeArrows();
         rims();
+        follows();
         noNet();
         cell();
         CHECK.end();
@@ -98,7 +102,8 @@ public final class NetTest {
         CHECK.is("15: fine 0", maps.fine(0), 2);
         CHECK.is("15: whole cells again", maps.next(0), 2);
         CHECK.run(new RoundMaps(), "15: 0 .. 7 is cut at 1, 3, 5", "map A(1024*x*(6-1024*x))/3/750 = 0",
-            "grid 0 7 1 0 0 1 = 1", "leaves 0 = 1", "fine 1 = 0", "leaves 0 = 1", "fine 2 = 1", "leaves 0 = 0", "arrows = 1");
+            "grid 0 7 1 0 0 1 = 1", "leaves 0 = 1", "fine 1 = 0", "leaves 0 = 1", "fine 2 = 1", "leaves 0 = 0",
+            "arrows = 1");
         // 0 .. 257 is cut at 128: at 129 no IMAGE would go beyond 257
         maps = Check.onLine("1024*x*(300-1024*x)/171/512/2", 0, 257, 1);
         maps.fine(1);
@@ -180,11 +185,56 @@ public final class NetTest {
             String leaves = "leaves 2 = " + (spans[i][0] < 0 || spans[i][1] > 1024 ? 1 : 0);
             CHECK.run(new RoundMaps(), "17: " + letter, "map n = 0", "grid 0 1024 4 0 0 1 = 4", letter + " = 1",
                 "next 2 = " + due[i], leaves);
-            CHECK.run(new RoundMaps(), "17: across, " + letter, "map n;1/2 = 0", "grid 0 1024 4 0 1024 1 = 4", letter + " = 1",
-                "next 2 = " + due[i], leaves);
-            CHECK.run(new RoundMaps(), "17: up, " + letter, "map 1/2;n = 0", "grid 0 1024 1 0 1024 4 = 4", letter + " = 1",
-                "next 2 = " + due[i], leaves);
+            CHECK.run(new RoundMaps(), "17: across, " + letter, "map n;1/2 = 0", "grid 0 1024 4 0 1024 1 = 4",
+                letter + " = 1", "next 2 = " + due[i], leaves);
+            CHECK.run(new RoundMaps(), "17: up, " + letter, "map 1/2;n = 0", "grid 0 1024 1 0 1024 4 = 4",
+                letter + " = 1", "next 2 = " + due[i], leaves);
         }
+    }
+
+    /** Whatever changes THE NET, it is another one at once, though it was asked just before. */
+    private static void follows() {
+        for (int what = 0; what < 3; what++) {
+            String letter = "letter " + what + " ";
+            CHECK.run(new RoundMaps(), "16: behind " + letter, "map " + "and".charAt(what) + " = 0",
+                "grid 0 1024 4 0 0 1 = 4", "next 3 = 1 : 0", "heaps = 1", "heap 0 = 0", "put 0 3 1 = 1",
+                "steer 0 1 9 = 1", letter + "1024 1024 = 1", "next 3 = 1 : 3", "heaps = 1", "heap 0 = -1", "heap 3 = 0",
+                "steer 0 1 9 = 4", "safe 0 1 = 1", letter + "1025 1025 = 1", "heaps = 0", "safe 0 1 = 0",
+                "next 3 = 0 :", "leaves 3 = 1");
+        }
+        String[] changes = {"letter 0 2000 2100", "letter 1 1000 1100", "letter 2 700 700", "use 1", "map", "fine 0", "fine 2",
+            "push 100", "grid -512 1536 8 0 0 1", "drive 2 3 900 1", "change 3", "letter 0 -18 9"};
+        for (String name : new String[] {"line", "plane"}) {
+            for (String change : changes) {
+                RoundMaps asked = State.lead(new RoundMaps(), name, "");
+                net(asked);
+                State.lead(asked, change);
+                RoundMaps fresh = State.lead(new RoundMaps(), name, "");
+                State.lead(fresh, change);
+                CHECK.same("16: behind " + change + ", " + name, net(asked), net(fresh));
+            }
+        }
+    }
+
+    private static List<String> net(RoundMaps maps) {
+        List<String> seen = new ArrayList<>();
+        for (String call : new String[] {"arrows", "heaps", "rings 2", "heap 3", "order 0 1", "covers 0 1"}) {
+            seen.add(call + " = " + State.ask(maps, call));
+        }
+        for (int c = 0; c < maps.count(2); c++) {
+            int next = maps.next(c);
+            seen.add("next " + c + " = " + next + (next < 0 ? "" : Check.rowOf(maps)));
+            seen.add("leaves " + c + " = " + maps.leaves(c));
+        }
+        maps.join(1, 1, 3);
+        maps.join(1, 2, 0);
+        for (int c = 0; c < maps.count(2); c++) {
+            maps.put(1, c, c % 3 < 2);
+        }
+        for (String call : new String[] {"core 1 2", "safe 1 2", "reach 1 2 2", "reach 1 2 3", "steer 1 2 1", "steer 1 2 9"}) {
+            seen.add(call + " = " + State.ask(maps, call) + maps.many(2) + Check.rowOf(maps));
+        }
+        return seen;
     }
 
     private static void noNet() {

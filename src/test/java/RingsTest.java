@@ -6,6 +6,7 @@ public final class RingsTest {
     public static void main(String[] args) {
         ring();
         ringOfMany();
+        undecidedOnTheWay();
         lettersAreSpans();
         stable();
         besideOne();
@@ -55,6 +56,18 @@ public final class RingsTest {
         ringIs(TENT, 400, 420, 1, 0);
         ringIs(TENT, 400, 420, 2, 2);
         ringIs(TENT, 800, 830, 2, 2);
+    }
+
+    /** Tests that were UNDECIDED ahead of the last step, or in it alone. */
+    private static void undecidedOnTheWay() {
+        ringIs("x<1/2?2:3-x", 0, 1024, 1, 0);
+        ringIs("x<1/2?2:3-x", 0, 1024, 2, 4);
+        ringIs("x<1/2?2:3-x", 0, 500, 2, 0);
+        ringIs("x<1/2?2:3-x", 512, 1024, 2, 5);
+        ringIs("x<5/2?2+x:x-2", 0, 1024, 1, 0);
+        ringIs("x<5/2?2+x:x-2", 0, 1024, 2, 4);
+        ringIs("x<5/2?2+x:x-2", 0, 400, 2, 0);
+        ringIs("x<5/2?2+x:x-2", 512, 1024, 2, 5);
     }
 
     private static void lettersAreSpans() {
@@ -190,6 +203,8 @@ public final class RingsTest {
         CHECK.is("36: one cell", maps.turning(63, 63), 1);
         CHECK.row("36: one cell", maps, 0);
         CHECK.is("36: 0 is on its rim", maps.turning(27, 36), 0);
+        CHECK.row("36: the ROW stays", maps, 0);
+        CHECK.is("36: 0 is on its rim, further round", maps.turning(18, 18), 0);
         CHECK.row("36: the ROW stays", maps, 0);
         CHECK.is("36: above 0", maps.turning(35, 44), 1);
         CHECK.row("36: above 0", maps, 0);

@@ -112,6 +112,8 @@ public final class SetsTest {
         coreIs(INWARD, new int[] {0}, 0);
         coreIs(INWARD, new int[] {});
         coreIs(OUTWARD, new int[] {0, 1, 2, 3});
+        // ARROWS: 0 to 1, 2; 1 to 2, 3; 2 to 3: nothing stays, one CELL after the other
+        coreIs("x+3/8", new int[] {0, 1, 2, 3});
         coreIs("1-x", new int[] {0, 2}, 0, 2);
         coreIs("1-x", new int[] {0, 1}, 1);
         coreIs("1-x", new int[] {0, 3}, 0, 3);

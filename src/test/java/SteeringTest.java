@@ -72,6 +72,9 @@ public final class SteeringTest {
         maps.fine(2);
         Check.map(maps, "x;y");
         CHECK.is("41: no NET", maps.steer(1, 3, 60), -1);
+        maps.use(0);
+        CHECK.is("44: safe", maps.safe(1, 2), 0);
+        maps.use(1);
         CHECK.is("42: plan is kept", maps.plan(0), 2);
         CHECK.is("43: steps are kept", maps.steps(3), 3);
         CHECK.is("43: steps there", maps.steps(2), 0);

@@ -106,6 +106,10 @@ public final class WordsTest {
         RoundMaps maps = Check.onLine("3*x/2", 0, 3072, 3);
         maps.box(0, 1);
         maps.box(0, 0);
+        for (int n = 1; n <= 20; n++) {
+            CHECK.is("39: one way alone, of " + n, maps.words(n, 0), n + 1);
+            CHECK.is("39: round it comes to itself alone, of " + n, maps.words(n, 1), 2);
+        }
         CHECK.is("40: 0", maps.word(0, 1), 1);
         CHECK.is("40: 1", maps.word(1, 1), 1);
         CHECK.is("40: 0 1", maps.word(0x10, 2), 1);
