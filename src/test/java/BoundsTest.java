@@ -358,6 +358,20 @@ public final class BoundsTest {
             "homes 2 1 = 0", "homes 2 0 = 1", "put 2 79 0 = 41", "homes 2 0 = 2", "homes 3 0 = 0", "homes 3 1 = 0",
             "join 3 3 4 = 128", "homes 3 0 = 1", "homes 3 1 = 0", "homes 0 -1 = -1", "homes 0 2 = -1", "homes 4 0 = -1",
             "homes -1 1 = -1");
+        String[] rims = {"1", "2", "4", "8", "7", "11", "13", "14"};
+        String[] corners = {"0", "3", "12", "15"};
+        run("49: all about a hole", "map x;y = 0", "grid 0 4 4 0 4 4 = 16", "join 0 0 4 = 16", "put 0 5 0", "put 0 6 0",
+            "put 0 9 0", "put 0 10 0 = 12", "homes 0 1 = 1", "homes 0 0 = 1");
+        for (String rim : rims) {
+            run("49: open at " + rim, "map x;y = 0", "grid 0 4 4 0 4 4 = 16", "join 0 0 4 = 16", "put 0 5 0",
+                "put 0 6 0", "put 0 9 0", "put 0 10 0 = 12", "put 0 " + rim + " 0", "homes 0 1 = 0",
+                "put 0 " + rim + " 1", "homes 0 1 = 1");
+        }
+        for (String corner : corners) {
+            run("49: not open at " + corner, "map x;y = 0", "grid 0 4 4 0 4 4 = 16", "join 0 0 4 = 16", "put 0 5 0",
+                "put 0 6 0", "put 0 9 0", "put 0 10 0 = 12", "put 0 " + corner + " 0 = 11", "homes 0 1 = 1",
+                "homes 0 0 = 1");
+        }
         run("49: on the line", "map x = 0", "grid 0 16 16 0 0 1 = 16", "put 0 0 1", "put 0 2 1", "put 0 4 1",
             "put 0 6 1", "put 0 8 1", "put 0 10 1", "put 0 12 1", "put 0 14 1 = 8", "homes 0 0 = 8", "homes 0 1 = 0",
             "put 0 15 1 = 9", "homes 0 0 = 8", "put 0 13 1 = 10", "homes 0 0 = 7");

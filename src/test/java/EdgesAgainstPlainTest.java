@@ -25,7 +25,8 @@ public final class EdgesAgainstPlainTest {
             "join 0 1 0|join 1 2 1|join 0 1 2|join 2 1 3|join 1 1 4", "many 2", "has 0 3", "core 2 1",
             "reach 0 1 0|reach 1 2 1|reach 0 0 2|reach 1 3 3", "trap 0", "heaps", "heap 3", "order 0 1|order 1 0",
             "take 1 0", "change 3", "ring 3 1|ring 4 2", "stable 3 1|stable 4 2", "rings 2", "turning 0 5|turning 5 6",
-            "box 1 3", "covers 0 1|covers 2 0", "words 3 0|words 2 1", "word 0 2|word 33 2|word 18 3", "steer 0 1 3|steer 1 1 60", "plan 2", "steps 2",
+            "box 1 3", "covers 0 1|covers 2 0", "words 3 0|words 2 1", "word 0 2|word 33 2|word 18 3",
+            "steer 0 1 3|steer 1 1 60", "plan 2", "steps 2",
             "safe 0 1|safe 2 2", "sight 3 7", "see 4", "blind", "sense 2", "homes 2 0|homes 1 1", "row 1"};
         for (String calls : usual) {
             USUAL.put(calls.split("[ |]")[0], calls);

@@ -5,6 +5,7 @@ public final class ImagesTest {
     public static void main(String[] args) {
         numbers();
         spans();
+        products();
         tests();
         plane();
         refusedShut();
@@ -80,6 +81,17 @@ public final class ImagesTest {
         image("x*x*x/2", 1000000, 1000000, 1073741823, 1073741824);
         image("x*x*x+x*x*x-1", 1000000, 1000000, 2147482623, 2147482623);
         image("-x*x*x-1", 1000000, 1000000, -2147483647, -2147483647);
+    }
+
+    /** Each of the four products of ends is the least once, and the greatest. */
+    private static void products() {
+        CHECK.run(new RoundMaps(), "10: PRODUCT", "map x*a = 0", "letter 0 -5120 7168",
+            "shut -3072 2048 0 0 = 0 : -21504 15360", "letter 0 5120 7168", "shut 2048 3072 0 0 = 0 : 10240 21504",
+            "shut -3072 -2048 0 0 = 0 : -21504 -10240", "letter 0 -7168 -5120",
+            "shut 2048 3072 0 0 = 0 : -21504 -10240", "shut -3072 -2048 0 0 = 0 : 10240 21504", "letter 0 -7168 5120",
+            "shut -2048 3072 0 0 = 0 : -21504 15360", "letter 0 0 0", "shut -9 9 0 0 = 0 : 0 0", "letter 0 1 1",
+            "shut -1024 1024 0 0 = 0 : -1 1", "shut -1025 1025 0 0 = 0 : -2 2", "shut 1 1 0 0 = 0 : 0 1",
+            "shut -1 -1 0 0 = 0 : -1 0", "shut 1023 1023 0 0 = 0 : 0 1", "shut -1023 -1023 0 0 = 0 : -1 0");
     }
 
     private static void test(String text, int lo, int hi, int undecided, int... due) {

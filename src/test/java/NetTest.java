@@ -202,7 +202,8 @@ public final class NetTest {
                 "steer 0 1 9 = 4", "safe 0 1 = 1", letter + "1025 1025 = 1", "heaps = 0", "safe 0 1 = 0",
                 "next 3 = 0 :", "leaves 3 = 1");
         }
-        String[] changes = {"letter 0 2000 2100", "letter 1 1000 1100", "letter 2 700 700", "use 1", "map", "fine 0", "fine 2",
+        String[] changes = {"letter 0 2000 2100", "letter 1 1000 1100", "letter 2 700 700", "use 1", "map", "fine 0",
+            "fine 2",
             "push 100", "grid -512 1536 8 0 0 1", "drive 2 3 900 1", "change 3", "letter 0 -18 9"};
         for (String name : new String[] {"line", "plane"}) {
             for (String change : changes) {
@@ -231,7 +232,8 @@ public final class NetTest {
         for (int c = 0; c < maps.count(2); c++) {
             maps.put(1, c, c % 3 < 2);
         }
-        for (String call : new String[] {"core 1 2", "safe 1 2", "reach 1 2 2", "reach 1 2 3", "steer 1 2 1", "steer 1 2 9"}) {
+        for (String call : new String[] {"core 1 2", "safe 1 2", "reach 1 2 2", "reach 1 2 3", "steer 1 2 1",
+            "steer 1 2 9"}) {
             seen.add(call + " = " + State.ask(maps, call) + maps.many(2) + Check.rowOf(maps));
         }
         return seen;

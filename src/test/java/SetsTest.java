@@ -25,6 +25,9 @@ public final class SetsTest {
         CHECK.is("21: another", maps.put(0, 0, true), 2);
         CHECK.is("21: take out", maps.put(0, 2, false), 1);
         CHECK.is("21: take out none", maps.put(0, 3, false), 1);
+        CHECK.is("21: the only one of another SET", maps.put(3, 3, true), 1);
+        CHECK.is("21: take it out", maps.put(3, 3, false), 0);
+        CHECK.is("21: take it out again", maps.put(3, 3, false), 0);
         CHECK.is("24: has", maps.has(0, 0), 1);
         CHECK.is("24: has not", maps.has(0, 2), 0);
         CHECK.is("24: another set has not", maps.has(1, 0), 0);
