@@ -169,6 +169,11 @@ public final class RingsTest {
         CHECK.row("36: turning of one cell, " + text, maps, due);
     }
 
+    private static void turnFar(String text, int due) {
+        CHECK.run(Check.with(text), "36: " + text, "grid -10240 10240 10 -10240 10240 10 = 100",
+            "turning 0 99 = 1 : " + due, "turning 0 0 = 1 : 0", "turning 90 99 = 1 : 0", "turning 99 99 = 1 : 0");
+    }
+
     private static void turning() {
         turn("y;-x", 1);
         turn("x/2;y/2", 1);
@@ -192,6 +197,11 @@ public final class RingsTest {
         turnOne("x+3*y;y-3*x", 1);
         turnOne("x-3*y;y+3*x", 1);
         turnOne("x+3*y;y+3*x", -1);
+        // IMAGE less place is the second and the third power of the place, and these mirrored
+        turnFar("x*x-y*y+x;2*x*y+y", 2);
+        turnFar("x*x-y*y+x;y-2*x*y", -2);
+        turnFar("x*x*x-3*x*y*y+x;3*x*x*y-y*y*y+y", 3);
+        turnFar("x*x*x-3*x*y*y+x;y*y*y-3*x*x*y+y", -3);
         RoundMaps maps = Check.with("0;0");
         maps.grid(-3072, 5120, 8, -3072, 5120, 8);
         CHECK.is("36: round 0", maps.turning(18, 36), 1);
