@@ -4,7 +4,7 @@ import java.lang.reflect.Method;
 import java.lang.reflect.Modifier;
 import java.nio.file.Files;
 import java.nio.file.Path;
-import java.nio.file.StandardCopyOption;
+import java.nio.file.attribute.PosixFilePermission;
 import java.util.ArrayList;
 import java.util.Comparator;
 import java.util.List;
@@ -124,16 +124,23 @@ public final class ReadmeTest {
         int ways = 0;
         for (List<String> block : blocks(lines, "sh")) {
             for (String command : block) {
-                boolean all = command.equals(".ci/run");
-                Path at = all ? copy(room.resolve("few"), FEW) : whole;
-                works("README.md: " + command, at, "sh", "-c", command);
-                if (all) {
-                    CHECK.same("README.md: the end of .ci/run", lastLine(at), "all tests pass");
+                if (command.equals(".ci/run")) {
+                    runPasses(copy(room.resolve("few"), FEW));
+                } else {
+                    works("README.md: " + command, whole, "sh", "-c", command);
                 }
                 ways++;
             }
         }
         CHECK.is("README.md: ways to run the tests", ways, 3);
+    }
+
+    /** By sh, since a machine may let nothing be started by its name where the copies are. */
+    private static void runPasses(Path at) throws Exception {
+        CHECK.is("README.md: .ci/run is a command",
+            Files.getPosixFilePermissions(Path.of(".ci/run")).contains(PosixFilePermission.OWNER_EXECUTE), true);
+        works("README.md: .ci/run", at, "sh", ".ci/run");
+        CHECK.same("README.md: the end of .ci/run", lastLine(at), "all tests pass");
     }
 
     private static void runFails(Path room) throws Exception {
@@ -156,7 +163,7 @@ public final class ReadmeTest {
         Path broken = copy(room.resolve("class is broken"), FEW);
         Path main = broken.resolve("src/main/java/RoundMaps.java");
         Files.writeString(main, Files.readString(main).replace("return 1;", "return 0;"));
-        Files.copy(Path.of("src/test/java/SetsTest.java"), broken.resolve("src/test/java/SetsTest.java"));
+        put(Path.of("src/test/java/SetsTest.java"), broken.resolve("src/test/java/SetsTest.java"));
         fails("the class answers otherwise", broken);
     }
 
@@ -196,7 +203,7 @@ public final class ReadmeTest {
 
     private static void put(Path from, Path to) throws IOException {
         Files.createDirectories(to.getParent());
-        Files.copy(from, to, StandardCopyOption.COPY_ATTRIBUTES);
+        Files.write(to, Files.readAllBytes(from));
     }
 
     /** Runs a command with all that it says in a file: its exit code. */

@@ -8,6 +8,7 @@ public final class SteeringTest {
         kept();
         leaving();
         plane();
+        far();
         safe();
         refused();
         CHECK.end();
@@ -109,6 +110,40 @@ public final class SteeringTest {
         CHECK.set("41: of the plane, in one", maps, 0, 0, 2, 4, 8);
         CHECK.is("42: of the plane", maps.plan(4), 1);
         CHECK.is("43: of the plane", maps.steps(2), 0);
+    }
+
+    /**
+     * PUSH 0 leads a bit more than a column to the left and a bit down, PUSH 1 (not from the columns 5 and more, which
+     * LEAVE) a bit less than eleven to the right and a bit more than a row down, so that each row is gone through.
+     */
+    private static void far() {
+        int[] numbers = {0, 1, 2, 12, 13, 24, 58, 59, 60};
+        for (int n : numbers) {
+            RoundMaps maps = Check.with("x+u-11/10;y-u/12-1/10");
+            maps.grid(0, 16384, 16, 0, 8192, 8);
+            maps.push(12288);
+            for (int c = 0; c < 32; c++) {
+                maps.put(0, c, true);
+            }
+            int reached = 0;
+            for (int c = 0; c < 128; c++) {
+                reached += stepsOfFar(c) <= n ? 1 : 0;
+            }
+            CHECK.is("41: far, in " + n, maps.steer(0, 1, n), reached);
+            for (int c = 0; c < 128; c++) {
+                int steps = stepsOfFar(c);
+                int plan = steps == 1 || c > 47 && c % 16 < 2 ? 1 : 0;
+                CHECK.is("43: far, steps of " + c + " in " + n, maps.steps(c), steps <= n ? steps : -1);
+                CHECK.is("42: far, plan of " + c + " in " + n, maps.plan(c), steps == 0 || steps > n ? -1 : plan);
+            }
+        }
+    }
+
+    /** Row 1 is there; from row 2 the least five columns drop; from above one has to come to the columns 0 or 1 first. */
+    private static int stepsOfFar(int cell) {
+        int column = cell % 16;
+        int row = cell / 16;
+        return row < 2 ? 0 : row == 2 ? Math.max(1, column - 3) : column + 9 + 12 * (row - 3);
     }
 
     private static void safeIs(int[] of, int... due) {
